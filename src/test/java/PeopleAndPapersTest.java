@@ -69,6 +69,7 @@ public final class PeopleAndPapersTest {
         due("count(0)", x.count(0), 6);
         due("undo()", x.undo(), 3);
         due("taken with room", x.person(2, 4), NOT_POSSIBLE);
+        due("taken by the first", x.person(2, 0), NOT_POSSIBLE);
         due("the one that was undone", x.person(2, 5), 5);
     }
 

@@ -28,6 +28,7 @@ public final class SketchingTest {
         promise10SellErrors();
         promise11Pass();
         promise11PassRemembers();
+        promise11PassOfAll();
         promise11PassLimit();
         promise12Set();
         promise12SetKeepsWetInk();
@@ -59,13 +60,15 @@ public final class SketchingTest {
         due("pass(1)", x.pass(1), 1);
         due("0 was not looked at", x.personOf(0, 5), 0);
         due("1 was", x.personOf(1, 5), 16);
+        x.turn(0, 6, 5);
+        due("look(0) ahead of turning", x.look(0), 496);
         due("look(-1)", x.look(-1), 0);
         due("count(7)", x.count(7), NOT_FOUND);
         due("nobody again is a change", x.look(-1), 0);
         due("undo()", x.undo(), 3);
         due("count(7)", x.count(7), NOT_FOUND);
         due("undo()", x.undo(), 2);
-        due("count(7)", x.count(7), 1);
+        due("count(7)", x.count(7), 0);
     }
 
     private static void promise5LookErrors() {
@@ -103,14 +106,19 @@ public final class SketchingTest {
 
     private static void promise6NoNumberComesAgain() {
         CourtJotter x = court();
+        x.set(1, 30);
         due("sheet", x.sheet(0), 0);
         due("draw(0, 0)", x.draw(0, 0), 1);
         due("tear(0)", x.tear(0), 0);
         due("next sheet", x.sheet(0), 1);
         due("nothing drawn on it", x.sheetOf(1, 1), 0);
         due("no ink on it", x.sheetOf(1, 4), 0);
+        x.set(1, 0);
+        x.draw(1, 0);
+        due("none of the other's ink", x.sheetOf(1, 4), 0);
+        due("sheet", x.sheet(0), 2);
         due("undo()", x.undo(), 3);
-        due("the number was given back", x.sheet(0), 1);
+        due("it was not begun", x.sheet(0), 2);
     }
 
     private static void promise7Draw() {
@@ -212,6 +220,7 @@ public final class SketchingTest {
         x.sheet(0);
         x.sheet(0);
         x.draw(0, 0);
+        x.set(1, 7);
         x.draw(2, 5);
         due("tear(3)", x.tear(3), INVALID);
         due("tear(-1)", x.tear(-1), INVALID);
@@ -222,6 +231,8 @@ public final class SketchingTest {
         due("number(1)", x.number(1), 2);
         due("0 keeps its features", x.sheetOf(0, 1), 1);
         due("2 keeps its features", x.sheetOf(2, 1), 32);
+        due("2 keeps its ink", x.sheetOf(2, 4), 7);
+        due("0 keeps its ink", x.sheetOf(0, 4), 0);
         due("tear(0)", x.tear(0), 1);
         due("tear(2)", x.tear(2), 0);
         due("count(9): torn is not sold", x.count(9), 0);
@@ -302,7 +313,19 @@ public final class SketchingTest {
         due("still this day", x.sell(2, 0), NOT_POSSIBLE);
         x.pass(1);
         due("another day", x.paperOf(0, 4), 0);
+        x.sheet(0);
+        x.set(0, 200);
+        x.look(0);
+        x.pass(12);
+        x.draw(4, 0);
+        x.draw(4, 1);
         due("sold on the other day", x.sell(2, 0), 10);
+        due("0 of that day", x.paperOf(0, 4), 1);
+        due("not again in it", x.sell(4, 0), NOT_POSSIBLE);
+        due("undo()", x.undo(), 3);
+        due("nobody on that day", x.paperOf(0, 4), 0);
+        due("another one in its stead", x.sell(4, 0), 20);
+        due("the first then not", x.sell(2, 0), NOT_POSSIBLE);
         due("paperOf(0, 2)", x.paperOf(0, 2), 3);
     }
 
@@ -372,6 +395,21 @@ public final class SketchingTest {
         due("and that ahead, of angle 8", x.personOf(0, 5), 4047);
         x.set(0, 3);
         due("and that ahead, of angle 3", x.personOf(0, 5), 4095);
+    }
+
+    private static void promise11PassOfAll() {
+        CourtJotter x = new CourtJotter();
+        for (int i = 0; i < 6; i++) {
+            x.person(i % 4, i / 2);
+            x.turn(i, i, i + 1);
+            x.look(i);
+            x.pass(1);
+        }
+        due("three are seen whole, three are hidden", x.pass(1), 3 * 5 + 3 + 1);
+        int[] angles = {7, 1, 5, 7, 7, 5};
+        for (int i = 0; i < 6; i++) {
+            due("angle of " + i, x.personOf(i, 2), angles[i]);
+        }
     }
 
     private static void promise11PassLimit() {

@@ -15,6 +15,7 @@ public final class WhatWouldBeTest {
         promise18SeenIn();
         promise18SeenInErrors();
         promise19Would();
+        promise19WouldOfHidden();
         promise19WouldChangesNothing();
         promise19WouldErrors();
         promise20Best();
@@ -22,10 +23,13 @@ public final class WhatWouldBeTest {
         promise20BestNoneAndErrors();
         promise21SellAll();
         promise21SellAllOncePerPerson();
+        promise21SellAllOfTen();
+        promise21SellAllOnAnotherDay();
         promise22Mean();
         promise22MeanOfNothingPaid();
         promise24Undo();
         promise24UndoEachChange();
+        promise24UndoOnSheets();
         promise24UndoLeavesTheText();
         CHECK.end("WhatWouldBeTest");
     }
@@ -113,6 +117,19 @@ public final class WhatWouldBeTest {
         x.turn(0, 6, 0);
         due("the old ones are kept", x.would(0, 39), 10);
         due("and forgotten", x.would(0, 40), 5);
+    }
+
+    private static void promise19WouldOfHidden() {
+        CourtJotter x = new CourtJotter();
+        x.person(1, 0);
+        x.person(0, 0);
+        x.person(1, 3);
+        for (int i = 0; i < 3; i++) {
+            x.turn(i, 0, 1);
+        }
+        due("behind: would(0, 3)", x.would(0, 3), 3);
+        due("in front: would(1, 3)", x.would(1, 3), 7);
+        due("another seat: would(2, 3)", x.would(2, 3), 7);
     }
 
     private static void promise19WouldChangesNothing() {
@@ -250,6 +267,36 @@ public final class WhatWouldBeTest {
         due("count(2)", x.count(2), 1);
     }
 
+    private static void promise21SellAllOfTen() {
+        CourtJotter x = court();
+        x.person(0, 2);
+        x.paper(1, 299);
+        x.look(2);
+        x.pass(1);
+        for (int i = 0; i < 10; i++) {
+            x.sheet(i % 3);
+            due("draw " + i, x.draw(i, 0), 1);
+            x.pass(1);
+        }
+        due("of 0: 10, 10, 5, 1; of 1 and 2: 10, 10, 5", x.sellAll(), 76);
+    }
+
+    private static void promise21SellAllOnAnotherDay() {
+        CourtJotter x = court();
+        x.pass(290);
+        for (int i = 0; i < 3; i++) {
+            x.look(0);
+            x.pass(1);
+            x.sheet(0);
+            draw(x, i, 1, 1);
+        }
+        due("10, 10 and 5", x.sellAll(), 25);
+        due("sell(0, 2)", x.sell(0, 2), 10);
+        due("10 and 5", x.sellAll(), 15);
+        due("sell(1, 1)", x.sell(1, 1), 10);
+        due("5", x.sellAll(), 5);
+    }
+
     private static void promise22Mean() {
         CourtJotter x = court();
         due("none sold", x.mean(), NOT_FOUND);
@@ -321,58 +368,95 @@ public final class WhatWouldBeTest {
         due("undo()", x.undo(), NOT_POSSIBLE);
     }
 
+    /** A change of its own ahead of another, so that the other's undo must come back to just here. */
+    private static void mark(CourtJotter x, int value) {
+        x.set(0, value);
+    }
+
+    private static void dueMark(CourtJotter x, int value) {
+        due("undo() back to mark " + value, x.undo(), 3);
+        due("mark " + value, x.count(20), value);
+    }
+
     private static void promise24UndoEachChange() {
         CourtJotter x = court();
-        x.sheet(0);
-        draw(x, 0, 0, 1);
-        x.undo();
-        due("draw: features", x.sheetOf(0, 1), 1);
-        due("draw: count(8)", x.count(8), 2);
+        mark(x, 190);
+        x.person(3, 3);
+        dueMark(x, 190);
+        due("person", x.count(0), 2);
+        mark(x, 191);
+        x.turn(0, 5, 6);
+        dueMark(x, 191);
+        due("turn: angle", x.personOf(0, 2), 0);
+        due("turn: step", x.personOf(0, 3), 1);
+        mark(x, 192);
+        x.paper(1, 1);
+        dueMark(x, 192);
+        due("paper", x.count(1), 3);
+        mark(x, 193);
+        x.look(0);
+        dueMark(x, 193);
+        due("look", x.count(7), 1);
+        mark(x, 194);
+        x.sheet(1);
+        dueMark(x, 194);
+        due("sheet: in the jotter", x.count(2), 0);
+        due("sheet: so far", x.count(3), 0);
+        mark(x, 195);
         x.verdict(0);
-        x.undo();
+        dueMark(x, 195);
         due("verdict", x.personOf(0, 6), 0);
+        mark(x, 196);
+        x.pass(7);
+        dueMark(x, 196);
+        due("pass: minute", x.count(4), 24);
+        due("pass: angle", x.personOf(0, 2), 0);
+        mark(x, 12);
+        x.pass(7);
+        dueMark(x, 12);
+        due("pass: what was seen", x.personOf(1, 5), 4095);
+        mark(x, 197);
+        x.set(0, 3);
+        dueMark(x, 197);
+        mark(x, 198);
+        x.set(1, 3);
+        dueMark(x, 198);
+        due("set", x.count(21), 0);
+        mark(x, 199);
+        x.play();
+        dueMark(x, 199);
+    }
+
+    private static void promise24UndoOnSheets() {
+        CourtJotter x = court();
+        x.sheet(0);
+        draw(x, 0, 0, 0);
+        mark(x, 190);
+        x.set(1, 9);
+        x.draw(0, 1);
+        due("draw: undo()", x.undo(), 3);
+        due("draw: features", x.sheetOf(0, 1), 1);
+        due("draw: ink", x.sheetOf(0, 4), 0);
+        due("draw: count(8)", x.count(8), 2);
+        mark(x, 191);
+        x.pass(1);
+        dueMark(x, 191);
+        due("pass: count(8)", x.count(8), 2);
+        mark(x, 192);
+        x.tear(0);
+        dueMark(x, 192);
+        due("tear: features", x.sheetOf(0, 1), 1);
+        mark(x, 193);
         x.sell(0, 1);
-        x.undo();
+        dueMark(x, 193);
         due("sell: sheets", x.count(2), 1);
+        due("sell: features", x.sheetOf(0, 1), 1);
         due("sell: sold", x.count(9), 0);
         due("sell: paid", x.count(10), 0);
         due("sell: of the person", x.personOf(0, 8), 0);
         due("sell: sheets of the paper", x.paperOf(1, 2), 0);
         due("sell: paid by the paper", x.paperOf(1, 3), 0);
         due("sell: people of the paper", x.paperOf(1, 4), 0);
-        due("sell: features", x.sheetOf(0, 1), 1);
-        x.tear(0);
-        x.undo();
-        due("tear", x.sheetOf(0, 1), 1);
-        x.turn(0, 5, 6);
-        x.undo();
-        due("turn: angle", x.personOf(0, 2), 0);
-        due("turn: step", x.personOf(0, 3), 1);
-        x.look(0);
-        x.undo();
-        due("look", x.count(7), 1);
-        x.set(0, 3);
-        x.undo();
-        due("set", x.count(20), 200);
-        x.set(1, 3);
-        x.undo();
-        due("set", x.count(21), 0);
-        x.paper(1, 1);
-        x.undo();
-        due("paper", x.count(1), 3);
-        x.pass(7);
-        x.undo();
-        due("pass: minute", x.count(4), 24);
-        due("pass: angle", x.personOf(0, 2), 0);
-        due("pass: count(8)", x.count(8), 2);
-        x.set(0, 12);
-        due("pass: what was seen", x.personOf(1, 5), 4095);
-        x.sheet(1);
-        x.undo();
-        due("sheet", x.count(3), 1);
-        due("count(11)", x.count(11), 3);
-        due("play()", x.play(), 0);
-        due("play() is a change", x.count(11), 4);
     }
 
     private static void promise24UndoLeavesTheText() {
