@@ -334,7 +334,7 @@ public final class CourtJotter {
 
         void watch(int person, int minute, int minutes) {
             int aside = seenAside(person);
-            // Whatever is seen at all is seen in the last 12 minutes, and later than before them.
+            // Turning repeats after 12 minutes, so what is seen at all is seen last in the last 12.
             for (int i = Math.max(0, minutes - FEATURES); i < minutes; i++) {
                 int seen = features(angleAfter(person, i), aside);
                 for (int feature = 0; feature < FEATURES; feature++) {
